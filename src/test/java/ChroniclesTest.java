@@ -13,6 +13,7 @@ public final class ChroniclesTest {
         numberFaults();
         otherLetters();
         endsTooEarly();
+        behindTheEnd();
         firstFaultCounts();
         faultChangesNothing();
         readAnew();
@@ -173,6 +174,24 @@ public final class ChroniclesTest {
         fault("qa5   ", 6);
         fault("q;s5;q ", 7);
         fault(" q", 2);
+    }
+
+    /** What an earlier, longer text had behind the end must not be read. */
+    private static void behindTheEnd() {
+        YearLines x = new YearLines();
+        Check.type(x, "qa567;");
+        x.clear();
+        Check.type(x, "qa5");
+        CHECK.due("a shorter text", x.houses(), -10 - 3);
+        x.type(';');
+        CHECK.due("ended behind a fault", x.houses(), 1);
+        StringBuilder full = new StringBuilder("qa5");
+        while (full.length() < 110) {
+            full.insert(0, ' ');
+        }
+        fault(full.toString(), 110);
+        fault("q;".repeat(55), 8);
+        fault("5".repeat(110), 0);
     }
 
     private static void firstFaultCounts() {

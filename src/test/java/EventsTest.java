@@ -80,6 +80,10 @@ public final class EventsTest {
         for (int e : new int[] {-1, 8, Integer.MAX_VALUE, Integer.MIN_VALUE}) {
             CHECK.due("date(" + e + ")", x.date(e), YearLines.NO);
         }
+        YearLines y = Check.told("qa10b20c30h50;qa13b23c39g40;");
+        CHECK.due("in the lowest house alone", y.date(7), 50);
+        CHECK.due("against the shift, by the lowest house", y.date(2), 30);
+        CHECK.due("by the shift that most speak for", y.date(6), 37);
         CHECK.due("below 0", Check.told("qa0;qb0a9;").date(1), -9);
         CHECK.due("far", Check.told("qa99;qa0b99;").date(1), 198);
     }
@@ -111,6 +115,8 @@ public final class EventsTest {
         line(Check.told("qh1g2f3;qc5b6a7;"), "cbahgf");
         line(Check.told("qd1a2;qe1a2;qc1b2;"), "cbdea");
         line(Check.told("qc5b5a5;"), "abc");
+        line(Check.told("qc1a2b3;"), "cab");
+        line(Check.told("qa1b2c3;qb1d2;qd1c2;qe1f2g3h4a5;"), "efghabdc");
         line(Check.told("qa1b2c3d4e5f6;qf1g2h3;"), "abcdefgh");
         YearLines x = Check.told("qb1a2;qb9d9;");
         line(x, "bad");

@@ -92,6 +92,11 @@ public final class ImagesTest {
         for (int what = 0; what < due.length; what++) {
             CHECK.due("count(" + what + ")", x.count(what), due[what]);
         }
+        YearLines full = Check.told("qa1b2c3d4e5f6;qa1b2c3d4e5f6;qa1b2c3d4e5f6;qh1g2f3e4d5c6;");
+        int[] dueFull = {4, 24, 8, 4, 0, 0, 0, 0};
+        for (int what = 0; what < dueFull.length; what++) {
+            CHECK.due("count(" + what + "), four full houses", full.count(what), dueFull[what]);
+        }
         for (int what : new int[] {-1, 8, Integer.MAX_VALUE, Integer.MIN_VALUE}) {
             CHECK.due("count(" + what + ")", x.count(what), YearLines.BAD);
         }

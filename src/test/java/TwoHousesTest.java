@@ -11,6 +11,7 @@ public final class TwoHousesTest {
         badSpans();
         shiftOfMost();
         shiftOfLikeOnes();
+        shiftOfSixCommon();
         shiftOfHouseZero();
         badShifts();
         measures();
@@ -112,6 +113,16 @@ public final class TwoHousesTest {
         shift(Check.told("qa10b20c30;qa9b25c35;"), 1, 5, "bc", "a");
         shift(Check.told("qa0b99;qb0a99;"), 1, -99, "b", "a");
         shift(Check.told("s9;qa10b20c30;qa11b22c32;"), 1, 2, "bc", "a");
+    }
+
+    private static void shiftOfSixCommon() {
+        YearLines x = Check.told("q;qa10b20c30d40e50f60;qa11b22c33d44e53f62;");
+        shift(x, 1, 0, "", "");
+        YearLines y = Check.told("qa10b20c30d40e50f60;qa11b22c33d44e53f62;");
+        shift(y, 1, 2, "bf", "acde");
+        CHECK.due("spans of six", y.span(0, 1, -1, 0), 6);
+        span(y, 0, 1, 5, 5, 5, 1, 2);
+        CHECK.due("the seventh", y.span(0, 1, 6, 0), YearLines.NO);
     }
 
     private static void shiftOfHouseZero() {

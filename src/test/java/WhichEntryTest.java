@@ -7,6 +7,7 @@ public final class WhichEntryTest {
         nothingSeen();
         allThatWasSeen();
         asThingsAreNow();
+        fourFullHouses();
         withoutHouses();
         CHECK.finish();
     }
@@ -88,6 +89,17 @@ public final class WhichEntryTest {
         unseen(x, 0, YearLines.NONE);
         x.tells(1, 0, 1);
         unseen(x, 1, 12);
+    }
+
+    private static void fourFullHouses() {
+        YearLines x = Check.told("qa1b2c3d4e5f6;qa1b2c3d4e5f6;qa1b2c3d4e5f6;qh1g2b3a4d5c6;");
+        unseen(x, 24, 0);
+        CHECK.due("knots", x.count(3), 4);
+        x.sees(2);
+        unseen(x, 4, 32);
+        x.forget();
+        x.sees(4);
+        unseen(x, 20, 0);
     }
 
     private static void withoutHouses() {
