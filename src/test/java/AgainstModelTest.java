@@ -3,42 +3,36 @@ import java.util.Random;
 /** Runs of calls by chance (always the same ones), each answered by the class and by the model. */
 public final class AgainstModelTest {
     private static final Check CHECK = new Check("AgainstModelTest");
-    private static final int RUNS = 150;
-    private static final int CALLS = 240;
+    private static final int RUNS = 3000;
+    private static final int[] CHANGES = {Calls.STRIKES, Calls.STRIKES, Calls.STRIKES, Calls.TELLS, Calls.TELLS,
+        Calls.TELLS, Calls.TELLS, Calls.SLACKS, Calls.UNDO, Calls.UNDO, Calls.SEES, Calls.SEES, Calls.FORGET,
+        Calls.KEEP, Calls.BACK, Calls.TYPE};
 
     public static void main(String[] args) {
         for (int run = 0; run < RUNS; run++) {
-            oneRun(new Random(run), run);
+            oneRun(new Random(run), new Both(CHECK, "run " + run));
         }
         CHECK.finish();
     }
 
-    private static void oneRun(Random r, int run) {
-        YearLines x = new YearLines();
-        Model m = new Model();
-        for (int call = 0; call < CALLS; call++) {
-            if (call % 60 == 0) {
-                tell(r, x, m, run);
-            }
-            String at = "run " + run + ", call " + call + ": ";
-            change(r, x, m, at);
-            if (call % 12 == 11) {
-                look(x, m, at);
+    private static void oneRun(Random r, Both both) {
+        tell(r, both);
+        while (both.left() > 0) {
+            if (both.left() > 150 && r.nextInt(150) == 0) {
+                tell(r, both);
+            } else if (r.nextInt(3) == 0) {
+                change(r, both);
+            } else {
+                look(r, both);
             }
         }
     }
 
-    private static void tell(Random r, YearLines x, Model m, int run) {
-        due("run " + run + ": clear", x.clear(), m.clear());
+    private static void tell(Random r, Both both) {
+        both.ask(Calls.CLEAR);
         String text = r.nextInt(4) == 0 ? spoilt(r, text(r)) : text(r);
-        for (char c : text.toCharArray()) {
-            due("run " + run + ": type", x.type(c), m.type(c));
-        }
-        due("run " + run + ": houses of \"" + text + "\"", x.houses(), m.houses());
-    }
-
-    private static void due(String call, int got, int want) {
-        CHECK.due(call, got, want);
+        both.type(text);
+        both.ask(Calls.HOUSES);
     }
 
     private static String text(Random r) {
@@ -111,61 +105,29 @@ public final class AgainstModelTest {
         return n < 12 ? (n % 2 == 0 ? from - 1 : to + 1) : from + r.nextInt(to - from + 1);
     }
 
+    private static int[] arguments(Random r, int call) {
+        int[][] ranges = Calls.RANGES[call];
+        int[] a = new int[ranges.length];
+        for (int i = 0; i < a.length; i++) {
+            a[i] = pick(r, ranges[i][0], ranges[i][1]);
+        }
+        return a;
+    }
+
     /** A call that changes something, or is refused. */
-    private static void change(Random r, YearLines x, Model m, String at) {
-        int house = pick(r, 0, 3);
-        int k = pick(r, 0, 5);
-        int n = pick(r, 0, 9);
-        int image = pick(r, 0, 1);
-        switch (r.nextInt(16)) {
-            case 0, 1, 2 -> due(at + "strikes(" + house + ", " + k + ")", x.strikes(house, k), m.strikes(house, k));
-            case 3, 4, 5, 6 -> {
-                int year = r.nextInt(3) == 0 ? pick(r, 0, 99) : m.entry(house, k, 1) + r.nextInt(9) - 4;
-                due(at + "tells(" + house + ", " + k + ", " + year + ")", x.tells(house, k, year),
-                        m.tells(house, k, year));
-            }
-            case 7 -> due(at + "slacks(" + n + ")", x.slacks(n), m.slacks(n));
-            case 8, 9 -> due(at + "undo()", x.undo(), m.undo());
-            case 10, 11 -> due(at + "sees(" + n + ")", x.sees(n), m.sees(n));
-            case 12 -> due(at + "forget()", x.forget(), m.forget());
-            case 13 -> due(at + "keep(" + image + ")", x.keep(image), m.keep(image));
-            case 14 -> due(at + "back(" + image + ")", x.back(image), m.back(image));
-            default -> due(at + "type(" + (32 + n) + ")", x.type(32 + n), m.type(32 + n));
+    private static void change(Random r, Both both) {
+        int call = CHANGES[r.nextInt(CHANGES.length)];
+        int[] a = arguments(r, call);
+        if (call == Calls.TELLS && r.nextInt(3) != 0) {
+            a[2] = both.year(a[0], a[1]) + r.nextInt(9) - 4;
         }
+        both.ask(call, a);
     }
 
-    /** All that may be asked, and a little beside it. */
-    private static void look(YearLines x, Model m, String at) {
-        for (int a = -1; a <= 9; a++) {
-            due(at + "count(" + a + ")", x.count(a), m.count(a));
-            due(at + "line(" + a + ")", x.line(a), m.line(a));
-            due(at + "date(" + a + ")", x.date(a), m.date(a));
-            due(at + "unseen(" + a + ")", x.unseen(a), m.unseen(a));
-            for (int b = -1; b <= 8; b++) {
-                due(at + "late(" + a + ", " + b + ")", x.late(a, b), m.late(a, b));
-            }
-            for (int b = -1; b <= 5; b++) {
-                due(at + "shift(" + a + ", " + b + ")", x.shift(a, b), m.shift(a, b));
-                due(at + "measure(" + a + ", " + b + ")", x.measure(a, b), m.measure(a, b));
-                due(at + "rank(" + a + ", " + b + ")", x.rank(a, b), m.rank(a, b));
-                due(at + "event(" + a + ", " + b + ")", x.event(a, b), m.event(a, b));
-            }
-        }
-        due(at + "without()", x.without(), m.without());
-        lookAtPairs(x, m, at);
-    }
-
-    private static void lookAtPairs(YearLines x, Model m, String at) {
-        for (int a = -1; a <= 4; a++) {
-            for (int b = -1; b <= 6; b++) {
-                for (int c = -2; c <= 6; c++) {
-                    due(at + "entry(" + a + ", " + b + ", " + c + ")", x.entry(a, b, c), m.entry(a, b, c));
-                    for (int d = -1; d <= 4; d++) {
-                        due(at + "span(" + a + ", " + b + ", " + c + ", " + d + ")", x.span(a, b, c, d),
-                                m.span(a, b, c, d));
-                    }
-                }
-            }
+    private static void look(Random r, Both both) {
+        int call = r.nextInt(Calls.NAMES.length);
+        if (call > Calls.HOUSES) {
+            both.ask(call, arguments(r, call));
         }
     }
 }

@@ -1,6 +1,7 @@
 /** What the project's tests share: telling a text, and comparing answers with those that are due. */
 final class Check {
     private final String name;
+    private String sentence = "";
     private int wrong;
     private int asked;
 
@@ -8,11 +9,16 @@ final class Check {
         this.name = name;
     }
 
+    /** The document's sentence that the next answers are about. */
+    void about(String words) {
+        sentence = "[" + words + "] ";
+    }
+
     void due(String call, int got, int want) {
         asked++;
         if (got != want) {
             wrong++;
-            System.out.println(name + ": " + call + " answered " + got + ", due is " + want);
+            System.out.println(name + ": " + sentence + call + " answered " + got + ", due is " + want);
         }
     }
 

@@ -30,7 +30,12 @@ final class Model {
         }
 
         Entry of(int house, int event) {
-            return left(house).stream().filter(e -> e.event() == event).findFirst().orElse(null);
+            for (Entry e : houses.get(house)) {
+                if (e.event() == event && !e.struck()) {
+                    return e;
+                }
+            }
+            return null;
         }
 
         boolean ahead(int a, int b, int leftOut) {
