@@ -248,6 +248,9 @@ public final class EdgesOfTermsTest {
         CHECK.due("agreed", x.shift(0, 1), Check.bits("abcfgh"));
         CHECK.due("against", x.shift(0, 2), 0);
         CHECK.due("measure 1", x.measure(0, 1), 6);
+        YearLines crossed = Check.told("qa1;qb1c2;qb1c3;");
+        CHECK.due("what two others have in common", crossed.span(1, 2, -1, 0), 2);
+        CHECK.due("is not against house 0", crossed.shift(0, 2), 0);
         YearLines none = Check.told("q;qa1;");
         CHECK.due("without entries", none.shift(0, 1), 0);
         CHECK.due("without entries, against", none.shift(0, 2), 0);

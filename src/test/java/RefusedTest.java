@@ -39,6 +39,7 @@ public final class RefusedTest {
         askingChangesNothing("new", YearLines::new);
         askingChangesNothing("midway", RefusedTest::midway);
         askingChangesNothing("full", RefusedTest::full);
+        whateverWasAskedAhead();
         CHECK.finish();
     }
 
@@ -251,5 +252,63 @@ public final class RefusedTest {
             x.rank(by, 1);
             x.count(by + 3);
         }
+    }
+
+    /** Rows that are used again must not carry anything from one answer into the next. */
+    private static void whateverWasAskedAhead() {
+        CHECK.about("As things are NOW; nothing is changed: whatever was asked ahead");
+        List<Call> questions = questions();
+        for (Call first : questions) {
+            for (Call second : questions) {
+                YearLines x = crossed();
+                first.ask().applyAsInt(x);
+                CHECK.due(second.name() + " behind " + first.name(), second.ask().applyAsInt(x), second.due());
+            }
+        }
+    }
+
+    /** Houses 1 and 2 have events in common that house 0 has not. */
+    private static YearLines crossed() {
+        YearLines x = Check.told("s1;qa1b5g6;qc1d2a9;qd1c3b4h7;q;");
+        x.strikes(0, 2);
+        x.sees(0);
+        return x;
+    }
+
+    private static List<Call> questions() {
+        List<Call> all = new ArrayList<>();
+        for (int pair = 0; pair < 16; pair++) {
+            int p = pair / 4;
+            int q = pair % 4;
+            add(all, "span(" + p + ", " + q + ", -1, 0)", x -> x.span(p, q, -1, 0));
+            add(all, "span(" + p + ", " + q + ", 0, 3)", x -> x.span(p, q, 0, 3));
+        }
+        for (int n = 0; n < 4; n++) {
+            int house = n;
+            for (int w = 0; w < 5; w++) {
+                int what = w;
+                add(all, "shift(" + house + ", " + what + ")", x -> x.shift(house, what));
+                add(all, "measure(" + house + ", " + what + ")", x -> x.measure(house, what));
+                add(all, "rank(" + what + ", " + house + ")", x -> x.rank(what, house));
+            }
+        }
+        for (int n = 0; n < 8; n++) {
+            int e = n;
+            add(all, "event(" + e + ", 1)", x -> x.event(e, 1));
+            add(all, "event(" + e + ", 2)", x -> x.event(e, 2));
+            add(all, "date(" + e + ")", x -> x.date(e));
+            add(all, "late(" + e + ", 1)", x -> x.late(e, 1));
+            add(all, "line(" + e + ")", x -> x.line(e));
+            add(all, "count(" + e + ")", x -> x.count(e));
+        }
+        add(all, "without()", YearLines::without);
+        add(all, "unseen(0)", x -> x.unseen(0));
+        add(all, "unseen(1)", x -> x.unseen(1));
+        return all;
+    }
+
+    /** What is due is what an object answers that is asked nothing else. */
+    private static void add(List<Call> all, String name, ToIntFunction<YearLines> ask) {
+        all.add(new Call(name, ask, ask.applyAsInt(crossed())));
     }
 }
