@@ -33,6 +33,7 @@ public final class EdgesOfTextTest {
         faultAtBothEnds();
         readAnew();
         readAnewShorterAndLonger();
+        readAnewAsByNewObject();
         CHECK.finish();
     }
 
@@ -543,5 +544,30 @@ public final class EdgesOfTextTest {
         CHECK.due("house 1 is there", x.entry(1, 1, 0), 6);
         CHECK.due("and has two", x.entry(1, 2, 0), YearLines.BAD);
         CHECK.due("h is gone", x.event(7, 0), 0);
+    }
+
+    /** Whatever was told or refused ahead, of four full houses too, nothing of it is left in any of the four. */
+    private static void readAnewAsByNewObject() {
+        CHECK.about("THE TEXT tells all anew (what is not told as at first)");
+        String full = "qa1b2c3d4e5f6;".repeat(4);
+        String[] ahead = {full, "s9;" + full, "s9;q;q;q;qh0a99;", "qc1;qc2;qc3;qc4;"};
+        String[] refused = {"", full.substring(0, full.length() - 1), "s8;q;q;q;qg5h"};
+        String[] then = {"q;q;q;q;", "qh9;qh8;qh7;qh6;", "q;q;q;qf1e1d1c1b1a1;", "q;", ""};
+        for (String first : ahead) {
+            for (String fault : refused) {
+                for (String last : then) {
+                    YearLines x = Check.told(first);
+                    Check.type(x, fault);
+                    CHECK.due("a fault, or no items", x.houses(), fault.isEmpty() ? 0 : -10 - fault.length());
+                    x.clear();
+                    Check.type(x, last);
+                    x.houses();
+                    String label = "\"" + last + "\" behind \"" + first + "\", \"" + fault + "\"";
+                    YearLines y = Check.told(last);
+                    Looks.sameEntries(CHECK, label, x, y);
+                    Looks.same(CHECK, label, x, y);
+                }
+            }
+        }
     }
 }

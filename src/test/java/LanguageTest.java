@@ -26,6 +26,7 @@ public final class LanguageTest {
         classesInside();
         String source = Files.readString(Path.of("src/main/java/YearLines.java"));
         forbiddenWords(withoutCommentsAndTexts(source));
+        shortMethods(source);
         CHECK.finish();
     }
 
@@ -73,11 +74,38 @@ public final class LanguageTest {
             int m = c.getModifiers();
             holds("static: " + c, Modifier.isStatic(m) && !Modifier.isPublic(m) && !Modifier.isProtected(m));
             holds("fields of " + c, fieldsOfObject(c) <= 20);
+            fewParameters(c);
             for (Method method : c.getDeclaredMethods()) {
                 holds("own name: " + method, FACE.stream().noneMatch(f -> f.startsWith(method.getName() + "/")));
             }
         }
         holds("fields", fieldsOfObject(YearLines.class) <= 20);
+        fewParameters(YearLines.class);
+    }
+
+    private static void fewParameters(Class<?> c) {
+        for (Method method : c.getDeclaredMethods()) {
+            holds("seven parameters at most: " + method, method.getParameterCount() <= 7);
+        }
+    }
+
+    /** A method starts with a line that ends in ") {" and is no statement; it ends with a } as far in as that. */
+    private static void shortMethods(String source) {
+        Pattern start = Pattern.compile("( ++)(?!if|for|while|switch|else|do|\\})[\\w<>\\[\\] ]+\\([^;]*\\) \\{");
+        String[] lines = source.split("\n");
+        int found = 0;
+        for (int i = 0; i < lines.length; i++) {
+            Matcher m = start.matcher(lines[i]);
+            if (m.matches()) {
+                int end = i;
+                while (end < lines.length && !lines[end].equals(m.group(1) + "}")) {
+                    end++;
+                }
+                holds("sixty lines at most: " + lines[i].trim(), end - i < 60);
+                found++;
+            }
+        }
+        holds("methods were found", found >= FACE.size());
     }
 
     private static long fieldsOfObject(Class<?> c) {
